@@ -96,6 +96,9 @@ public final class FaceTest {
       c.same(field.getName(), "true", String.valueOf(
           Modifier.toString(field.getModifiers()).startsWith(wanted)));
     }
+    for (Class<?> inside : type.getDeclaredClasses()) {
+      c.same(inside.getName(), "private static final", Modifier.toString(inside.getModifiers()));
+    }
     c.same("NONE", "-1", String.valueOf(TreeheadGallery.NONE));
   }
 

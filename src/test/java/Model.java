@@ -87,7 +87,10 @@ public final class Model {
     return made;
   }
 
-  /** The root that a proof for leaf i of n works out, taking its sums from the end; null if it has not as many as are due. */
+  /**
+   * The root that a proof for leaf i of n works out, taking its sums from the end; null if it has
+   * not as many as are due.
+   */
   static Integer climb(List<Integer> proof, int i, int n, int value) {
     if (n == 1) {
       return proof.isEmpty() ? leafSum(value) : null;
@@ -105,7 +108,10 @@ public final class Model {
     return i < k ? mix(under, last) : mix(last, under);
   }
 
-  /** The old root and the new one that a growth proof works out; null if it has not as many sums as are due. */
+  /**
+   * The old root and the new one that a growth proof works out; null if it has not as many sums as
+   * are due.
+   */
   static int[] climbGrowth(List<Integer> proof, int m, int n, boolean trust, int oldRoot) {
     if (m == n) {
       if (proof.size() != (trust ? 0 : 1)) {

@@ -1,6 +1,7 @@
 import java.lang.reflect.Method;
+import java.util.function.IntFunction;
 
-/** For each promise a test of its own, called after its number: common uses, edges, wrong arguments. */
+/** For each promise a test of its own, called after its number: uses, edges, wrong arguments. */
 public final class PromisesTest {
   private static final int LOW = Integer.MIN_VALUE;
   private static final int HIGH = Integer.MAX_VALUE;
@@ -478,6 +479,10 @@ public final class PromisesTest {
     c.due("testGrowth(0, 3, 1, 6)", false, () -> x.testGrowth(0, 3, 1, 6));
     c.due("testGrowth(0, 3, 0, 5)", false, () -> x.testGrowth(0, 3, 0, 5));
     c.due("testGrowth(0, 2, 0, 6)", false, () -> x.testGrowth(0, 2, 0, 6));
+    c.due("testLeaf(0, 1, 0, 1) by it", false, () -> x.testLeaf(0, 1, 0, 1));
+    c.due("testGrowth(0, 3, 0, 6) again", true, () -> x.testGrowth(0, 3, 0, 6));
+    c.due("testGrowth(0, 6, 0, 6) by it", false, () -> x.testGrowth(0, 6, 0, 6));
+    c.due("testGrowth(0, 3, 0, 6) once more", true, () -> x.testGrowth(0, 3, 0, 6));
     x.change(0, x.sumAt(0) == 0 ? 1 : 0);
     c.due("testGrowth(0, 3, 0, 6) changed", false, () -> x.testGrowth(0, 3, 0, 6));
     x.loadGrowth(1, 5, 6);
@@ -774,7 +779,7 @@ public final class PromisesTest {
     return "nothing";
   }
 
-  private static void askedOfAWatcher(Check c, String name, java.util.function.IntFunction<Object> ask) {
+  private static void askedOfAWatcher(Check c, String name, IntFunction<Object> ask) {
     for (int watcher : new int[] {-1, 4, 5, LOW, HIGH}) {
       c.outOfBounds(name + "(" + watcher + ")", () -> ask.apply(watcher));
     }
@@ -858,6 +863,10 @@ public final class PromisesTest {
     x.append(1, 8);
     x.show(3, 1);
     c.due("counted(3)", 1, () -> x.counted(3));
+    TreeheadGallery zero = fresh();
+    zero.append(0, 0);
+    zero.show(0, 0);
+    c.due("counted(0) without a value, of 0", 0, () -> zero.counted(0));
     TreeheadGallery all = fresh();
     for (int leaf = 0; leaf < 100; leaf++) {
       all.append(0, 65535);
