@@ -1,15 +1,10 @@
-import java.lang.reflect.InvocationTargetException;
-import java.lang.reflect.Method;
-import java.util.ArrayList;
-import java.util.List;
-
 /**
  * Runs of at most 512 calls, the same on TreeheadGallery and on the model: each answer is compared,
  * and so is all that can be asked after a call that throws and at the end of a run.
  */
 public final class AgainstModelTest {
   private static final int RUNS = 1500;
-  private static final int CALLS = 512;
+  private static final int CALLS = Calls.MOST;
   private static final int CALLS_OF_A_LOOK = 60;
 
   /** Each method of the face that changes or tests something, with the kinds of its arguments. */
@@ -204,35 +199,10 @@ public final class AgainstModelTest {
 
   private String both(String name, int... arguments) {
     calls++;
-    String want = call(model, name, arguments);
-    String got = call(gallery, name, arguments);
-    check.same("run " + run + ", call " + calls + ", " + named(name, arguments), want, got);
+    String want = Calls.answer(model, name, arguments);
+    String got = Calls.answer(gallery, name, arguments);
+    check.same("run " + run + ", call " + calls + ", " + Calls.told(name, arguments), want, got);
     return want;
-  }
-
-  private static String named(String name, int[] arguments) {
-    List<String> words = new ArrayList<>();
-    for (int argument : arguments) {
-      words.add(String.valueOf(argument));
-    }
-    return name + "(" + String.join(", ", words) + ")";
-  }
-
-  private static String call(Object object, String name, int[] arguments) {
-    Class<?>[] types = new Class<?>[arguments.length];
-    Object[] values = new Object[arguments.length];
-    for (int i = 0; i < arguments.length; i++) {
-      types[i] = int.class;
-      values[i] = arguments[i];
-    }
-    try {
-      Method method = object.getClass().getMethod(name, types);
-      return String.valueOf(method.invoke(object, values));
-    } catch (InvocationTargetException e) {
-      return "throws." + e.getCause().getClass().getSimpleName();
-    } catch (ReflectiveOperationException e) {
-      throw new IllegalStateException(e);
-    }
   }
 
   /** A row of numbers that is the same for each run anew (no random source). */

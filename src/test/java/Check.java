@@ -47,8 +47,12 @@ final class Check {
     }
   }
 
+  boolean isRight() {
+    return wrong == 0 && compared > 0;
+  }
+
   boolean holds() {
     System.out.println(title + ": " + compared + " answers, " + wrong + " not as due");
-    return wrong == 0 && compared > 0;
+    return isRight();
   }
 }
